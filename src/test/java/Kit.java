@@ -12,6 +12,10 @@ final class Kit {
         int answer();
     }
 
+    interface CallOf {
+        int on(TwinRegister x);
+    }
+
     private static int answers = 0;
     private static int wrong = 0;
 
@@ -53,6 +57,46 @@ final class Kit {
             found |= 1 << number;
         }
         return found;
+    }
+
+    static int wishOne(TwinRegister x, int device, int leaf, int value) {
+        x.put(leaf, value);
+        return x.wish(device, -1);
+    }
+
+    static int reportOne(TwinRegister x, int device, int number, int leaf, int value) {
+        x.put(leaf, value);
+        return x.report(device, number);
+    }
+
+    /** All eight devices report the device's number for leaf 0. */
+    static TwinRegister withReports() {
+        TwinRegister x = new TwinRegister();
+        for (int device = 0; device < DEVICES; device++) {
+            reportOne(x, device, 1, 0, device);
+        }
+        return x;
+    }
+
+    /** Something of everything: a draft, a sleeper, refusals, groups, jobs in each state. */
+    static TwinRegister busy() {
+        TwinRegister x = withReports();
+        x.setGroup(1, 0, 2, 6);
+        for (int job = 0; job < 8; job++) {
+            x.addJob(job % 4, 4 + job, job, 1 + job, 1 + job % 2);
+        }
+        x.wave();
+        x.refuse(0, 4, 2);
+        x.refuse(3, 7, 3);
+        x.obey(1);
+        x.wave();
+        x.cancel(5);
+        wishOne(x, 6, 1, 9);
+        x.sleep(6);
+        wishOne(x, 6, 2, 9);
+        x.drop(1);
+        x.put(9, 9);
+        return x;
     }
 
     /** Reads everything that can be read: 357 calls at most, which change nothing. */
@@ -104,6 +148,45 @@ final class Kit {
             }
         }
         return NOTHING;
+    }
+
+    /** A hundred calls, drawn by a fixed rule, and their answers: they bring out what is hidden, too. */
+    static List<String> future(TwinRegister x, int seed) {
+        List<String> answers = new ArrayList<>();
+        for (int device = 0; device < DEVICES; device++) {
+            int number = 2 + device % 2;
+            int each = device;
+            answers.add(told(() -> seed % 2 == 0 ? x.wish(each, -1) : x.report(each, number)));
+        }
+        long state = seed;
+        for (int call = 0; call < 100; call++) {
+            state = state * 6364136223846793005L + 1442695040888963407L;
+            int drawn = (int) (state >>> 34);
+            answers.add(told(() -> drawnCall(x, drawn)));
+        }
+        return answers;
+    }
+
+    private static int drawnCall(TwinRegister x, int drawn) {
+        int device = drawn / 12 % DEVICES;
+        int leaf = drawn / 96 % LEAVES;
+        int more = drawn / 1152;
+        return switch (drawn % 12) {
+            case 0, 1 -> x.put(leaf, more % 10 - 1);
+            case 2 -> x.wish(device, -1);
+            case 3 -> x.report(device, 1 + more % 4);
+            case 4 -> x.obey(device);
+            case 5 -> x.refuse(device, leaf, 1 + more % 9);
+            case 6 -> x.sleep(device) ? 1 : 0;
+            case 7 -> x.wake(device);
+            case 8, 9 -> x.wave();
+            case 10 -> x.members(device % GROUPS) + 1000 * x.differences(device);
+            default -> x.jobs() > device ? x.devices(device, 1) + 1000 * x.devices(device, 2) : x.heard(device);
+        };
+    }
+
+    static int answers() {
+        return answers;
     }
 
     static void dueSame(String what, List<String> got, List<String> want) {

@@ -8,10 +8,6 @@ public final class PromisesTest {
     private static final int LEAST = Integer.MIN_VALUE;
     private static final int MOST = Integer.MAX_VALUE;
 
-    private interface CallOf {
-        int on(TwinRegister x);
-    }
-
     private PromisesTest() {
     }
 
@@ -49,27 +45,8 @@ public final class PromisesTest {
         Kit.due(what, got, want);
     }
 
-    private static void dueThrow(String what, TwinRegister x, CallOf call, String want) {
+    private static void dueThrow(String what, TwinRegister x, Kit.CallOf call, String want) {
         Kit.due(what, Kit.told(() -> call.on(x)), want);
-    }
-
-    private static int wishOne(TwinRegister x, int device, int leaf, int value) {
-        x.put(leaf, value);
-        return x.wish(device, -1);
-    }
-
-    private static int reportOne(TwinRegister x, int device, int number, int leaf, int value) {
-        x.put(leaf, value);
-        return x.report(device, number);
-    }
-
-    /** All eight devices report the device's number for leaf 0. */
-    private static TwinRegister withReports() {
-        TwinRegister x = new TwinRegister();
-        for (int device = 0; device < Kit.DEVICES; device++) {
-            reportOne(x, device, 1, 0, device);
-        }
-        return x;
     }
 
     private static void promise1() {
@@ -93,9 +70,9 @@ public final class PromisesTest {
 
         TwinRegister y = new TwinRegister();
         dueThrow("1: no draft", y, r -> r.wish(0, -1), STATE);
-        reportOne(y, 3, 1, 0, 0);
-        reportOne(y, 5, 1, 0, 99);
-        reportOne(y, 6, 1, 1, 50);
+        Kit.reportOne(y, 3, 1, 0, 0);
+        Kit.reportOne(y, 5, 1, 0, 99);
+        Kit.reportOne(y, 6, 1, 1, 50);
         for (int group = 0; group < Kit.GROUPS; group++) {
             due("1: groups of leaf 0, values 0 to 99", y.members(group), Kit.bits(3, 5));
         }
@@ -239,7 +216,7 @@ public final class PromisesTest {
         due("5: no version", x.version(2), 1);
         due("5: no other device", x.reported(1, 0), -1);
         dueThrow("5: the draft is empty", x, r -> r.wish(2, -1), STATE);
-        due("5: a removal", reportOne(x, 2, 3, 0, -1), 3);
+        due("5: a removal", Kit.reportOne(x, 2, 3, 0, -1), 3);
         due("5: removed", x.reported(2, 0), -1);
         due("5: an empty report tells too", x.report(2, 4), 3);
         dueThrow("5: number 0", x, r -> r.report(2, 0), ARGUMENT);
@@ -258,28 +235,28 @@ public final class PromisesTest {
         x.wake(2);
         due("5: no number was taken", x.report(2, 5), 3);
         x.refuse(2, 1, 8);
-        due("5: a report does not take refusals back", reportOne(x, 2, 6, 1, 2), 2);
+        due("5: a report does not take refusals back", Kit.reportOne(x, 2, 6, 1, 2), 2);
         due("5: refused still", x.why(2, 1), 8);
-        due("5: first device", reportOne(x, 0, 1, 0, 0), 0);
-        due("5: last device", reportOne(x, 7, 1, 11, 99), 0);
+        due("5: first device", Kit.reportOne(x, 0, 1, 0, 0), 0);
+        due("5: last device", Kit.reportOne(x, 7, 1, 11, 99), 0);
         due("5: last leaf", x.reported(7, 11), 99);
     }
 
     private static void promise5Doubled() {
         TwinRegister x = new TwinRegister();
-        wishOne(x, 0, 0, 4);
-        reportOne(x, 0, 1, 0, 3);
-        reportOne(x, 0, 2, 0, 2);
+        Kit.wishOne(x, 0, 0, 4);
+        Kit.reportOne(x, 0, 1, 0, 3);
+        Kit.reportOne(x, 0, 2, 0, 2);
         x.put(0, 4);
         x.put(1, 4);
         due("5: doubled", x.report(0, 2), -1);
         dueThrow("5: empty behind a doubled one", x, r -> r.wish(0, -1), STATE);
         due("5: a doubled one changes nothing", x.reported(0, 0), 2);
         due("5: nor another leaf", x.reported(0, 1), -1);
-        due("5: an earlier one", reportOne(x, 0, 1, 0, 4), -1);
+        due("5: an earlier one", Kit.reportOne(x, 0, 1, 0, 4), -1);
         due("5: changes nothing", x.reported(0, 0), 2);
         due("5: doubled and empty", x.report(0, 2), -1);
-        due("5: the latest number stayed", reportOne(x, 0, 3, 0, 4), 0);
+        due("5: the latest number stayed", Kit.reportOne(x, 0, 3, 0, 4), 0);
         due("5: taken", x.reported(0, 0), 4);
     }
 
@@ -292,7 +269,7 @@ public final class PromisesTest {
         x.put(11, 3);
         x.put(8, 4);
         x.wish(3, -1);
-        reportOne(x, 3, 2, 8, 4);
+        Kit.reportOne(x, 3, 2, 8, 4);
         x.refuse(3, 5, 1);
         x.put(9, 9);
         due("6: those that differ", x.obey(3), 2);
@@ -312,13 +289,13 @@ public final class PromisesTest {
         dueThrow("6: device -1", x, r -> r.obey(-1), INDEX);
         dueThrow("6: device 8", x, r -> r.obey(8), INDEX);
         x.sleep(3);
-        wishOne(x, 3, 0, 50);
+        Kit.wishOne(x, 3, 0, 50);
         dueThrow("6: asleep", x, r -> r.obey(3), STATE);
         due("6: nothing reported", x.reported(3, 0), 1);
         x.wake(3);
         due("6: awake again", x.obey(3), 1);
         due("6: no number between", x.report(3, 7), 0);
-        wishOne(x, 3, 0, -1);
+        Kit.wishOne(x, 3, 0, -1);
         due("6: nothing wished is nothing to do", x.obey(3), 0);
         due("6: reported stays", x.reported(3, 0), 50);
     }
@@ -349,25 +326,25 @@ public final class PromisesTest {
         dueThrow("7: leaf 12", x, r -> r.refuse(6, 12, 1), INDEX);
         dueThrow("7: leaf first", x, r -> r.refuse(6, 12, 0), INDEX);
         dueThrow("7: reason ahead of the state", x, r -> r.refuse(6, 2, 0), ARGUMENT);
-        reportOne(x, 6, 1, 1, 2);
+        Kit.reportOne(x, 6, 1, 1, 2);
         dueThrow("7: reported as wished", x, r -> r.refuse(6, 1, 1), STATE);
-        reportOne(x, 6, 2, 1, 7);
+        Kit.reportOne(x, 6, 2, 1, 7);
         due("7: differs from what is reported", x.refuse(6, 1, 5), 0);
         x.sleep(6);
-        wishOne(x, 6, 1, 2);
+        Kit.wishOne(x, 6, 1, 2);
         dueThrow("7: asleep", x, r -> r.refuse(6, 1, 1), STATE);
         dueThrow("7: reason ahead of sleep", x, r -> r.refuse(6, 1, 0), ARGUMENT);
         dueThrow("7: leaf ahead of sleep", x, r -> r.refuse(6, 12, 1), INDEX);
         due("7: not refused", x.why(6, 1), 0);
-        reportOne(x, 6 - 1, 1, 0, 1);
+        Kit.reportOne(x, 6 - 1, 1, 0, 1);
         due("7: no other device", x.why(5, 0), 0);
     }
 
     private static void promise8() {
         TwinRegister x = new TwinRegister();
-        wishOne(x, 0, 0, 1);
+        Kit.wishOne(x, 0, 0, 1);
         Kit.due("8: was awake", x.sleep(0), true);
-        wishOne(x, 0, 0, 2);
+        Kit.wishOne(x, 0, 0, 2);
         Kit.due("8: was asleep", x.sleep(0), false);
         due("8: heard when it fell asleep", x.heard(0), 1);
         due("8: the version goes on", x.version(0), 2);
@@ -384,13 +361,13 @@ public final class PromisesTest {
         due("9: awake", x.wake(3), 0);
         x.sleep(3);
         due("9: nothing new", x.wake(3), 0);
-        wishOne(x, 3, 0, 1);
+        Kit.wishOne(x, 3, 0, 1);
         due("9: awake, with a version", x.wake(3), 0);
         x.sleep(3);
         for (int value = 10; value < 13; value++) {
-            wishOne(x, 3, 0, value);
+            Kit.wishOne(x, 3, 0, value);
         }
-        reportOne(x, 2, 1, 0, 1);
+        Kit.reportOne(x, 2, 1, 0, 1);
         x.addJob(0, 4, 9, 8, 8);
         due("9: heard still", x.heard(3), 1);
         due("9: three versions", x.wake(3), 3);
@@ -398,7 +375,7 @@ public final class PromisesTest {
         due("9: no more", x.wake(3), 0);
         due("9: the version stays", x.version(3), 4);
         due("9: awake, it obeys", x.obey(3), 1);
-        reportOne(x, 3, 2, 0, 1);
+        Kit.reportOne(x, 3, 2, 0, 1);
         x.sleep(3);
         x.wave();
         due("9: a job's wish is a version", x.wake(3), 1);
@@ -407,7 +384,7 @@ public final class PromisesTest {
     }
 
     private static void promise10() {
-        TwinRegister x = withReports();
+        TwinRegister x = Kit.withReports();
         due("10: 2 to 5", x.setGroup(1, 0, 2, 5), 4);
         due("10: its members", x.members(1), Kit.bits(2, 3, 4, 5));
         due("10: other groups stay", x.members(0), 255);
@@ -415,7 +392,7 @@ public final class PromisesTest {
         due("10: least value", x.setGroup(1, 0, 0, 0), 1);
         due("10: greatest value", x.setGroup(1, 0, 99, 99), 0);
         due("10: another leaf", x.setGroup(3, 11, 0, 99), 0);
-        reportOne(x, 4, 2, 11, 99);
+        Kit.reportOne(x, 4, 2, 11, 99);
         due("10: it fills", x.members(3), Kit.bits(4));
         due("10: back to leaf 0", x.setGroup(3, 0, 0, 99), 8);
         dueThrow("10: group -1", x, r -> r.setGroup(-1, 0, 0, 99), INDEX);
@@ -468,7 +445,7 @@ public final class PromisesTest {
     }
 
     private static void promise12Starts() {
-        TwinRegister x = withReports();
+        TwinRegister x = Kit.withReports();
         x.setGroup(2, 0, 1, 6);
         x.addJob(2, 5, 30, 2, 8);
         x.put(3, 3);
@@ -484,14 +461,14 @@ public final class PromisesTest {
         due("12: nor a version", x.version(3), 0);
         due("12: the draft stays", x.put(3, 3), 1);
         due("12: no draft is wished", x.wished(1, 3), -1);
-        reportOne(x, 3, 2, 0, 50);
-        reportOne(x, 0, 2, 0, 1);
-        reportOne(x, 1, 2, 0, 50);
+        Kit.reportOne(x, 3, 2, 0, 50);
+        Kit.reportOne(x, 0, 2, 0, 1);
+        Kit.reportOne(x, 1, 2, 0, 50);
         due("12: two more", x.wave(), 2);
         due("12: those that are members by then", x.devices(0, 0), Kit.bits(0, 1, 2, 4));
         due("12: the last two", x.wave(), 2);
         due("12: none is left", x.wave(), 0);
-        reportOne(x, 7, 2, 0, 6);
+        Kit.reportOne(x, 7, 2, 0, 6);
         due("12: one that joins late", x.wave(), 1);
         due("12: none twice", x.version(1), 1);
         x.setGroup(2, 0, 0, 99);
@@ -501,35 +478,35 @@ public final class PromisesTest {
     }
 
     private static void promise12Judges() {
-        TwinRegister x = withReports();
+        TwinRegister x = Kit.withReports();
         x.addJob(0, 5, 30, 8, 8);
-        reportOne(x, 6, 2, 5, 30);
+        Kit.reportOne(x, 6, 2, 5, 30);
         x.wave();
         due("12: none is done in the wave that starts it", x.devices(0, 1), 0);
         x.obey(0);
         x.refuse(1, 5, 3);
         x.refuse(2, 5, 3);
-        reportOne(x, 2, 2, 5, 30);
+        Kit.reportOne(x, 2, 2, 5, 30);
         x.refuse(3, 5, 3);
-        wishOne(x, 3, 5, 30);
-        wishOne(x, 4, 5, 31);
+        Kit.wishOne(x, 3, 5, 30);
+        Kit.wishOne(x, 4, 5, 31);
         x.refuse(4, 5, 3);
         x.obey(5);
-        reportOne(x, 5, 3, 5, 1);
+        Kit.reportOne(x, 5, 3, 5, 1);
         due("12: told in waves only", x.devices(0, 1) | x.devices(0, 2), 0);
         due("12: none to start", x.wave(), 0);
         due("12: done by what is reported", x.devices(0, 1), Kit.bits(0, 2, 6));
         due("12: failed by a refusal of this value", x.devices(0, 2), Kit.bits(1));
-        reportOne(x, 0, 3, 5, 1);
+        Kit.reportOne(x, 0, 3, 5, 1);
         x.refuse(0, 5, 1);
-        reportOne(x, 1, 2, 5, 30);
-        reportOne(x, 4, 2, 5, 30);
+        Kit.reportOne(x, 1, 2, 5, 30);
+        Kit.reportOne(x, 4, 2, 5, 30);
         x.wave();
         due("12: done stays done", x.devices(0, 1), Kit.bits(0, 2, 4, 6));
         due("12: failed stays failed", x.devices(0, 2), Kit.bits(1));
 
-        TwinRegister y = withReports();
-        reportOne(y, 2, 2, 5, 30);
+        TwinRegister y = Kit.withReports();
+        Kit.reportOne(y, 2, 2, 5, 30);
         y.setGroup(0, 0, 0, 1);
         y.addJob(0, 5, 30, 8, 8);
         y.wave();
@@ -538,7 +515,7 @@ public final class PromisesTest {
     }
 
     private static void promise12Stops() {
-        TwinRegister x = withReports();
+        TwinRegister x = Kit.withReports();
         x.addJob(0, 5, 30, 3, 2);
         x.wave();
         x.refuse(0, 5, 1);
@@ -557,14 +534,14 @@ public final class PromisesTest {
         due("12: 6 has no wish", x.version(6), 0);
         dueThrow("12: a stopped one is not cancelled", x, r -> r.cancel(0), STATE);
 
-        TwinRegister y = withReports();
+        TwinRegister y = Kit.withReports();
         y.addJob(0, 5, 30, 8, 1);
         y.wave();
         y.refuse(7, 5, 1);
         y.wave();
         due("12: at the bound", y.state(0), 1);
 
-        TwinRegister z = withReports();
+        TwinRegister z = Kit.withReports();
         z.addJob(0, 5, 30, 8, 8);
         z.wave();
         for (int device = 0; device < Kit.DEVICES; device++) {
@@ -576,14 +553,14 @@ public final class PromisesTest {
     }
 
     private static void promise12Order() {
-        TwinRegister x = withReports();
+        TwinRegister x = Kit.withReports();
         x.addJob(0, 5, 30, 8, 8);
         x.addJob(0, 5, 31, 8, 8);
         due("12: over all jobs", x.wave(), 16);
         due("12: the later job's wish stands", x.wished(4, 5), 31);
         due("12: two versions", x.version(4), 2);
 
-        TwinRegister y = withReports();
+        TwinRegister y = Kit.withReports();
         y.addJob(1, 5, 30, 8, 1);
         y.addJob(0, 5, 30, 8, 1);
         y.setGroup(1, 0, 50, 50);
@@ -595,7 +572,7 @@ public final class PromisesTest {
         due("12: so none has failed by then", y.devices(1, 2), 0);
         due("12: not stopped", y.state(1), 0);
 
-        TwinRegister z = withReports();
+        TwinRegister z = Kit.withReports();
         z.addJob(0, 5, 30, 8, 1);
         z.addJob(1, 5, 30, 8, 1);
         z.setGroup(1, 0, 50, 50);
@@ -610,7 +587,7 @@ public final class PromisesTest {
     }
 
     private static void promise13() {
-        TwinRegister x = withReports();
+        TwinRegister x = Kit.withReports();
         x.addJob(0, 5, 30, 6, 8);
         x.addJob(0, 6, 30, 1, 8);
         x.wave();
@@ -638,17 +615,17 @@ public final class PromisesTest {
     private static void promise14And15() {
         TwinRegister x = new TwinRegister();
         for (int version = 1; version < 4; version++) {
-            wishOne(x, 5, 0, version);
+            Kit.wishOne(x, 5, 0, version);
             due("14: version", x.version(5), version);
             due("15: awake has heard", x.heard(5), version);
         }
         x.sleep(5);
-        wishOne(x, 5, 1, 1);
+        Kit.wishOne(x, 5, 1, 1);
         due("14: asleep", x.version(5), 4);
         due("15: asleep", x.heard(5), 3);
         x.wake(5);
         due("15: awake again", x.heard(5), 4);
-        wishOne(x, 5, 1, 2);
+        Kit.wishOne(x, 5, 1, 2);
         due("15: hears at once", x.heard(5), 5);
         due("14: others", x.version(4), 0);
         due("15: others", x.heard(6), 0);
@@ -681,11 +658,11 @@ public final class PromisesTest {
             dueThrow("17: " + pair[0] + ", " + pair[1], x, r -> r.reported(pair[0], pair[1]), INDEX);
             dueThrow("18: " + pair[0] + ", " + pair[1], x, r -> r.why(pair[0], pair[1]), INDEX);
         }
-        reportOne(x, 7, 2, 11, 99);
+        Kit.reportOne(x, 7, 2, 11, 99);
         due("18: stays though reported as wished", x.why(7, 11), 9);
-        wishOne(x, 7, 11, 98);
+        Kit.wishOne(x, 7, 11, 98);
         due("18: taken back by a wish", x.why(7, 11), 0);
-        reportOne(x, 7, 3, 0, 1);
+        Kit.reportOne(x, 7, 3, 0, 1);
         x.refuse(7, 11, 2);
         x.setGroup(0, 0, 0, 99);
         x.addJob(0, 11, 98, 1, 1);
@@ -701,25 +678,25 @@ public final class PromisesTest {
     private static void promise19And20() {
         TwinRegister x = new TwinRegister();
         dueDifferences("none at first", x, 1, 0);
-        reportOne(x, 1, 1, 4, 10);
+        Kit.reportOne(x, 1, 1, 4, 10);
         dueDifferences("reported but not wished", x, 1, 0);
         x.put(0, 1);
         x.put(4, 10);
         x.put(11, 0);
         x.wish(1, -1);
         dueDifferences("wished, not as reported", x, 1, Kit.bits(0, 11));
-        reportOne(x, 1, 2, 0, 2);
+        Kit.reportOne(x, 1, 2, 0, 2);
         dueDifferences("another reported", x, 1, Kit.bits(0, 11));
-        reportOne(x, 1, 3, 0, 1);
+        Kit.reportOne(x, 1, 3, 0, 1);
         dueDifferences("reported as wished", x, 1, Kit.bits(11));
-        reportOne(x, 1, 4, 4, -1);
+        Kit.reportOne(x, 1, 4, 4, -1);
         dueDifferences("reported none", x, 1, Kit.bits(4, 11));
         x.refuse(1, 11, 1);
         dueDifferences("refused", x, 1, Kit.bits(4));
-        reportOne(x, 1, 5, 11, 50);
+        Kit.reportOne(x, 1, 5, 11, 50);
         dueDifferences("reported though refused", x, 1, Kit.bits(4));
         x.sleep(1);
-        wishOne(x, 1, 11, 0);
+        Kit.wishOne(x, 1, 11, 0);
         dueDifferences("wished anew, asleep", x, 1, Kit.bits(4, 11));
         x.drop(1);
         x.wish(1, -1);
@@ -745,23 +722,23 @@ public final class PromisesTest {
     }
 
     private static void promise21() {
-        TwinRegister x = withReports();
+        TwinRegister x = Kit.withReports();
         due("21: all", x.members(0), 255);
         x.setGroup(0, 0, 2, 4);
         due("21: both ends are in", x.members(0), Kit.bits(2, 3, 4));
-        reportOne(x, 3, 2, 0, 5);
+        Kit.reportOne(x, 3, 2, 0, 5);
         due("21: one leaves", x.members(0), Kit.bits(2, 4));
-        reportOne(x, 7, 2, 0, 2);
+        Kit.reportOne(x, 7, 2, 0, 2);
         due("21: one joins", x.members(0), Kit.bits(2, 4, 7));
-        reportOne(x, 2, 2, 0, -1);
+        Kit.reportOne(x, 2, 2, 0, -1);
         due("21: none is no value", x.members(0), Kit.bits(4, 7));
-        wishOne(x, 0, 0, 3);
+        Kit.wishOne(x, 0, 0, 3);
         due("21: what is wished does not count", x.members(0), Kit.bits(4, 7));
         x.obey(0);
         due("21: what is obeyed does", x.members(0), Kit.bits(0, 4, 7));
         x.sleep(4);
         due("21: asleep or awake", x.members(0), Kit.bits(0, 4, 7));
-        reportOne(x, 0, 2, 0, 99);
+        Kit.reportOne(x, 0, 2, 0, 99);
         due("21: a doubled one does not count", x.members(0), Kit.bits(0, 4, 7));
         due("21: another group", x.members(3), 255 & ~Kit.bits(2));
         for (int group : new int[] {-1, 4, LEAST, MOST}) {
@@ -770,7 +747,7 @@ public final class PromisesTest {
     }
 
     private static void promise22And23() {
-        TwinRegister x = withReports();
+        TwinRegister x = Kit.withReports();
         for (int job = 0; job < 8; job++) {
             due("22: jobs", x.jobs(), job);
             int next = job;
@@ -793,7 +770,7 @@ public final class PromisesTest {
     }
 
     private static void promise24() {
-        TwinRegister x = withReports();
+        TwinRegister x = Kit.withReports();
         x.addJob(0, 5, 30, 4, 8);
         x.wave();
         x.obey(0);
@@ -813,29 +790,8 @@ public final class PromisesTest {
         due("24: told of a cancelled one", x.devices(0, 1), Kit.bits(0, 2));
     }
 
-    /** Something of everything: a draft, a sleeper, refusals, groups, jobs in each state. */
-    private static TwinRegister busy() {
-        TwinRegister x = withReports();
-        x.setGroup(1, 0, 2, 6);
-        for (int job = 0; job < 8; job++) {
-            x.addJob(job % 4, 4 + job, job, 1 + job, 1 + job % 2);
-        }
-        x.wave();
-        x.refuse(0, 4, 2);
-        x.refuse(3, 7, 3);
-        x.obey(1);
-        x.wave();
-        x.cancel(5);
-        wishOne(x, 6, 1, 9);
-        x.sleep(6);
-        wishOne(x, 6, 2, 9);
-        x.drop(1);
-        x.put(9, 9);
-        return x;
-    }
-
     private static void thrownChangesNothing() {
-        CallOf[] calls = {
+        Kit.CallOf[] calls = {
             r -> r.put(12, 0), r -> r.put(-1, 0), r -> r.put(8, 100), r -> r.put(8, -2),
             r -> r.drop(3), r -> r.drop(-1),
             r -> r.wish(8, -1), r -> r.wish(0, 50), r -> r.wish(6, 0),
@@ -853,11 +809,11 @@ public final class PromisesTest {
             r -> r.differences(8), r -> r.differencesAnew(8), r -> r.members(4), r -> r.state(8),
             r -> r.devices(8, 0), r -> r.devices(0, 3),
         };
-        List<String> readings = Kit.readings(busy());
-        List<String> hidden = Kit.hidden(busy());
+        List<String> readings = Kit.readings(Kit.busy());
+        List<String> hidden = Kit.hidden(Kit.busy());
         for (int number = 0; number < calls.length; number++) {
-            TwinRegister x = busy();
-            TwinRegister y = busy();
+            TwinRegister x = Kit.busy();
+            TwinRegister y = Kit.busy();
             int call = number;
             String told = Kit.told(() -> calls[call].on(x));
             Kit.due("thrown call " + number + " " + told, told.endsWith("Exception"), true);
@@ -870,10 +826,10 @@ public final class PromisesTest {
     private static void objectsAreApart() {
         TwinRegister x = new TwinRegister();
         List<String> fresh = Kit.readings(x);
-        busy();
+        Kit.busy();
         Kit.dueSame("objects are apart", Kit.readings(new TwinRegister()), fresh);
         TwinRegister y = new TwinRegister();
-        busy();
+        Kit.busy();
         due("objects are apart: the draft", y.put(0, 0), 1);
     }
 }
