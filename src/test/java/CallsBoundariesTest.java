@@ -107,12 +107,16 @@ public final class CallsBoundariesTest {
         promise.test("Returns how many leaves the draft has then.", CallsBoundariesTest::countsOfPut);
         promise.test("Throws `IndexOutOfBoundsException` if there is no such leaf", () -> {
             Bounds.refusedEach("leaf", Bounds::ready, Bounds.outside(0, 11), (x, leaf) -> x.put(leaf, 5), Bounds.INDEX);
-            Bounds.refusedEach("a removal", Bounds::ready, new int[] {-1, 12}, (x, leaf) -> x.put(leaf, -1), Bounds.INDEX);
-            Bounds.refusedEach("a wrong value", Bounds::ready, new int[] {-1, 12}, (x, leaf) -> x.put(leaf, 100), Bounds.INDEX);
+            Bounds.refusedEach("a removal", Bounds::ready, new int[] {-1, 12},
+                    (x, leaf) -> x.put(leaf, -1), Bounds.INDEX);
+            Bounds.refusedEach("a wrong value", Bounds::ready, new int[] {-1, 12},
+                    (x, leaf) -> x.put(leaf, 100), Bounds.INDEX);
         });
         promise.test("Throws `IllegalArgumentException` if value is out of range", () -> {
-            Bounds.refusedEach("value", Bounds::ready, Bounds.outside(-1, 99), (x, value) -> x.put(11, value), Bounds.ARGUMENT);
-            Bounds.refusedEach("over a value", Bounds::ready, new int[] {-2, 100}, (x, value) -> x.put(3, value), Bounds.ARGUMENT);
+            Bounds.refusedEach("value", Bounds::ready, Bounds.outside(-1, 99),
+                    (x, value) -> x.put(11, value), Bounds.ARGUMENT);
+            Bounds.refusedEach("over a value", Bounds::ready, new int[] {-2, 100},
+                    (x, value) -> x.put(3, value), Bounds.ARGUMENT);
         });
         promise.end("Puts a leaf into the draft.");
     }
@@ -154,7 +158,8 @@ public final class CallsBoundariesTest {
             Bounds.due("empty again", x.drop(0), 4);
         });
         promise.test("Throws `IndexOutOfBoundsException` if there is no such section", () -> {
-            Bounds.refusedEach("section", Bounds::ready, Bounds.outside(0, 2), (x, section) -> x.drop(section), Bounds.INDEX);
+            Bounds.refusedEach("section", Bounds::ready, Bounds.outside(0, 2),
+                    (x, section) -> x.drop(section), Bounds.INDEX);
             Bounds.refusedEach("empty, section", CallsBoundariesTest::emptyDraft, new int[] {-1, 3},
                     (x, section) -> x.drop(section), Bounds.INDEX);
         });
@@ -203,8 +208,10 @@ public final class CallsBoundariesTest {
         });
         promise.test(NO_SUCH_DEVICE, () -> {
             noOtherDevice((x, device) -> x.wish(device, -1));
-            Bounds.refusedEach("with a version", Bounds::ready, new int[] {-1, 8}, (x, device) -> x.wish(device, 1), Bounds.INDEX);
-            Bounds.refusedEach("with another one", Bounds::ready, new int[] {-1, 8}, (x, device) -> x.wish(device, 9), Bounds.INDEX);
+            Bounds.refusedEach("with a version", Bounds::ready, new int[] {-1, 8},
+                    (x, device) -> x.wish(device, 1), Bounds.INDEX);
+            Bounds.refusedEach("with another one", Bounds::ready, new int[] {-1, 8},
+                    (x, device) -> x.wish(device, 9), Bounds.INDEX);
         });
         promise.test("Throws `IllegalStateException` if the draft has no leaves, or its version is another one", () -> {
             Bounds.refusedEach("no leaves, any version", CallsBoundariesTest::emptyDraft, new int[] {-1, 0, 1, 2},
@@ -261,12 +268,16 @@ public final class CallsBoundariesTest {
         });
         promise.test(NO_SUCH_DEVICE, () -> {
             noOtherDevice((x, device) -> x.report(device, 1));
-            Bounds.refusedEach("the next", Bounds::ready, new int[] {-1, 8}, (x, device) -> x.report(device, 2), Bounds.INDEX);
-            Bounds.refusedEach("a wrong number", Bounds::ready, new int[] {-1, 8}, (x, device) -> x.report(device, 0), Bounds.INDEX);
+            Bounds.refusedEach("the next", Bounds::ready, new int[] {-1, 8},
+                    (x, device) -> x.report(device, 2), Bounds.INDEX);
+            Bounds.refusedEach("a wrong number", Bounds::ready, new int[] {-1, 8},
+                    (x, device) -> x.report(device, 0), Bounds.INDEX);
         });
         promise.test("Throws `IllegalArgumentException` if number is below 1, or above that of the latest one and 1", () -> {
-            Bounds.refusedEach("at first", TwinRegister::new, Bounds.outside(1, 1), (x, number) -> x.report(7, number), Bounds.ARGUMENT);
-            Bounds.refusedEach("behind one", Bounds::ready, Bounds.outside(1, 2), (x, number) -> x.report(7, number), Bounds.ARGUMENT);
+            Bounds.refusedEach("at first", TwinRegister::new, Bounds.outside(1, 1),
+                    (x, number) -> x.report(7, number), Bounds.ARGUMENT);
+            Bounds.refusedEach("behind one", Bounds::ready, Bounds.outside(1, 2),
+                    (x, number) -> x.report(7, number), Bounds.ARGUMENT);
             Bounds.takenEach("behind one", Bounds::ready, 1, 2, (x, number) -> x.report(7, number));
             Bounds.refusedEach("asleep", Bounds::readyAsleep, new int[] {-1, 0, 3, Bounds.LEAST, Bounds.MOST},
                     (x, number) -> x.report(7, number), Bounds.ARGUMENT);
@@ -473,7 +484,8 @@ public final class CallsBoundariesTest {
         });
         promise.test(NO_SUCH_DEVICE, () -> {
             noOtherDevice((x, device) -> x.sleep(device) ? 1 : 0);
-            Bounds.refusedEach("all asleep", Bounds::readyAsleep, new int[] {-1, 8}, (x, device) -> x.sleep(device) ? 1 : 0,
+            Bounds.refusedEach("all asleep", Bounds::readyAsleep, new int[] {-1, 8},
+                    (x, device) -> x.sleep(device) ? 1 : 0,
                     Bounds.INDEX);
         });
         promise.end("A device goes to sleep.");
@@ -507,7 +519,8 @@ public final class CallsBoundariesTest {
         });
         promise.test(NO_SUCH_DEVICE, () -> {
             noOtherDevice((x, device) -> x.wake(device));
-            Bounds.refusedEach("all asleep", Bounds::readyAsleep, new int[] {-1, 8}, (x, device) -> x.wake(device), Bounds.INDEX);
+            Bounds.refusedEach("all asleep", Bounds::readyAsleep, new int[] {-1, 8},
+                    (x, device) -> x.wake(device), Bounds.INDEX);
         });
         promise.end("A device wakes.");
     }
@@ -544,19 +557,27 @@ public final class CallsBoundariesTest {
             Bounds.due("empty in a new object", new TwinRegister().setGroup(0, 0, 0, 99), 0);
         });
         promise.test("Throws `IndexOutOfBoundsException` if there is no such group or leaf", () -> {
-            Bounds.refusedEach("group", Bounds::ready, Bounds.outside(0, 3), (x, group) -> x.setGroup(group, 1, 0, 99), Bounds.INDEX);
-            Bounds.refusedEach("leaf", Bounds::ready, Bounds.outside(0, 11), (x, leaf) -> x.setGroup(3, leaf, 0, 99), Bounds.INDEX);
-            Bounds.refusedEach("group, wrong values", Bounds::ready, new int[] {-1, 4}, (x, group) -> x.setGroup(group, 1, 9, 8),
+            Bounds.refusedEach("group", Bounds::ready, Bounds.outside(0, 3),
+                    (x, group) -> x.setGroup(group, 1, 0, 99), Bounds.INDEX);
+            Bounds.refusedEach("leaf", Bounds::ready, Bounds.outside(0, 11),
+                    (x, leaf) -> x.setGroup(3, leaf, 0, 99), Bounds.INDEX);
+            Bounds.refusedEach("group, wrong values", Bounds::ready, new int[] {-1, 4},
+                    (x, group) -> x.setGroup(group, 1, 9, 8),
                     Bounds.INDEX);
-            Bounds.refusedEach("leaf, wrong values", Bounds::ready, new int[] {-1, 12}, (x, leaf) -> x.setGroup(3, leaf, -1, 100),
+            Bounds.refusedEach("leaf, wrong values", Bounds::ready, new int[] {-1, 12},
+                    (x, leaf) -> x.setGroup(3, leaf, -1, 100),
                     Bounds.INDEX);
         });
         promise.test("Throws `IllegalArgumentException` if low or high is out of range", () -> {
-            Bounds.refusedEach("low", Bounds::ready, Bounds.outside(0, 99), (x, low) -> x.setGroup(3, 1, low, 99), Bounds.ARGUMENT);
-            Bounds.refusedEach("high", Bounds::ready, Bounds.outside(0, 99), (x, high) -> x.setGroup(3, 1, 0, high), Bounds.ARGUMENT);
-            Bounds.refusedEach("both", Bounds::ready, Bounds.outside(0, 99), (x, value) -> x.setGroup(3, 1, value, value),
+            Bounds.refusedEach("low", Bounds::ready, Bounds.outside(0, 99),
+                    (x, low) -> x.setGroup(3, 1, low, 99), Bounds.ARGUMENT);
+            Bounds.refusedEach("high", Bounds::ready, Bounds.outside(0, 99),
+                    (x, high) -> x.setGroup(3, 1, 0, high), Bounds.ARGUMENT);
+            Bounds.refusedEach("both", Bounds::ready, Bounds.outside(0, 99),
+                    (x, value) -> x.setGroup(3, 1, value, value),
                     Bounds.ARGUMENT);
-            Bounds.refusedEach("high below low 60,", Bounds::ready, new int[] {0, 1, 58, 59}, (x, high) -> x.setGroup(3, 1, 60, high),
+            Bounds.refusedEach("high below low 60,", Bounds::ready, new int[] {0, 1, 58, 59},
+                    (x, high) -> x.setGroup(3, 1, 60, high),
                     Bounds.ARGUMENT);
             Bounds.refused("low above all, high below", Bounds::ready, x -> x.setGroup(3, 1, Bounds.MOST, Bounds.LEAST),
                     Bounds.ARGUMENT);
@@ -617,11 +638,15 @@ public final class CallsBoundariesTest {
             }
         });
         promise.test("Throws `IndexOutOfBoundsException` if there is no such group or leaf", () -> {
-            Bounds.refusedEach("group", Bounds::ready, Bounds.outside(0, 3), (x, group) -> x.addJob(group, 1, 5, 2, 2), Bounds.INDEX);
-            Bounds.refusedEach("leaf", Bounds::ready, Bounds.outside(0, 11), (x, leaf) -> x.addJob(1, leaf, 5, 2, 2), Bounds.INDEX);
-            Bounds.refusedEach("group, all wrong", Kit::busy, new int[] {-1, 4}, (x, group) -> x.addJob(group, 12, 100, 9, 9),
+            Bounds.refusedEach("group", Bounds::ready, Bounds.outside(0, 3),
+                    (x, group) -> x.addJob(group, 1, 5, 2, 2), Bounds.INDEX);
+            Bounds.refusedEach("leaf", Bounds::ready, Bounds.outside(0, 11),
+                    (x, leaf) -> x.addJob(1, leaf, 5, 2, 2), Bounds.INDEX);
+            Bounds.refusedEach("group, all wrong", Kit::busy, new int[] {-1, 4},
+                    (x, group) -> x.addJob(group, 12, 100, 9, 9),
                     Bounds.INDEX);
-            Bounds.refusedEach("leaf, all wrong", Kit::busy, new int[] {-1, 12}, (x, leaf) -> x.addJob(1, leaf, -1, 0, 0),
+            Bounds.refusedEach("leaf, all wrong", Kit::busy, new int[] {-1, 12},
+                    (x, leaf) -> x.addJob(1, leaf, -1, 0, 0),
                     Bounds.INDEX);
         });
         promise.test("Throws `IllegalArgumentException` if value, rate or bound is out of range",
@@ -639,9 +664,12 @@ public final class CallsBoundariesTest {
     }
 
     private static void wrongJobs() {
-        Bounds.refusedEach("value", Bounds::ready, Bounds.outside(0, 99), (x, value) -> x.addJob(1, 1, value, 2, 2), Bounds.ARGUMENT);
-        Bounds.refusedEach("rate", Bounds::ready, Bounds.outside(1, 8), (x, rate) -> x.addJob(1, 1, 5, rate, 2), Bounds.ARGUMENT);
-        Bounds.refusedEach("bound", Bounds::ready, Bounds.outside(1, 8), (x, bound) -> x.addJob(1, 1, 5, 2, bound), Bounds.ARGUMENT);
+        Bounds.refusedEach("value", Bounds::ready, Bounds.outside(0, 99),
+                (x, value) -> x.addJob(1, 1, value, 2, 2), Bounds.ARGUMENT);
+        Bounds.refusedEach("rate", Bounds::ready, Bounds.outside(1, 8),
+                (x, rate) -> x.addJob(1, 1, 5, rate, 2), Bounds.ARGUMENT);
+        Bounds.refusedEach("bound", Bounds::ready, Bounds.outside(1, 8),
+                (x, bound) -> x.addJob(1, 1, 5, 2, bound), Bounds.ARGUMENT);
         Bounds.refused("value, with eight", Kit::busy, x -> x.addJob(1, 1, -1, 2, 2), Bounds.ARGUMENT);
         Bounds.refused("rate, with eight", Kit::busy, x -> x.addJob(1, 1, 5, 9, 2), Bounds.ARGUMENT);
         Bounds.refused("bound, with eight", Kit::busy, x -> x.addJob(1, 1, 5, 2, 0), Bounds.ARGUMENT);
@@ -683,6 +711,11 @@ public final class CallsBoundariesTest {
             z.addJob(0, 6, 50, 2, 8);
             z.cancel(0);
             Bounds.due("not those of a cancelled one", z.wave(), 2);
+            TwinRegister stopping = Bounds.withJob(2, 1);
+            stopping.wave();
+            stopping.refuse(0, 5, 1);
+            Bounds.due("none in the wave that stops it", stopping.wave(), 0);
+            Bounds.due("none of a stopped one", stopping.wave(), 0);
             TwinRegister empty = new TwinRegister();
             empty.addJob(0, 5, 50, 8, 8);
             Bounds.due("an empty group", empty.wave(), 0);
@@ -710,7 +743,8 @@ public final class CallsBoundariesTest {
         promise.test("Returns how many started devices are neither done nor failed, as it was told in the latest wave.",
                 CallsBoundariesTest::countsOfCancel);
         promise.test("Throws `IndexOutOfBoundsException` if there is no such job", () -> {
-            Bounds.refusedEach("no job", TwinRegister::new, new int[] {-1, 0, 1, 7, 8}, (x, job) -> x.cancel(job), Bounds.INDEX);
+            Bounds.refusedEach("no job", TwinRegister::new, new int[] {-1, 0, 1, 7, 8},
+                    (x, job) -> x.cancel(job), Bounds.INDEX);
             Bounds.refusedEach("one job", Bounds::ready, Bounds.outside(0, 0), (x, job) -> x.cancel(job), Bounds.INDEX);
             Bounds.refusedEach("eight jobs", Kit::busy, Bounds.outside(0, 7), (x, job) -> x.cancel(job), Bounds.INDEX);
         });

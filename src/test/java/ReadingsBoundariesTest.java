@@ -36,7 +36,8 @@ public final class ReadingsBoundariesTest {
         devicesOnly((x, device) -> reading.on(x, device, 0));
         devicesOnly((x, device) -> reading.on(x, device, 11));
         Bounds.takenEach("leaf", Bounds::ready, 0, 11, (x, leaf) -> reading.on(x, 7, leaf));
-        Bounds.refusedEach("leaf", Bounds::ready, Bounds.outside(0, 11), (x, leaf) -> reading.on(x, 7, leaf), Bounds.INDEX);
+        Bounds.refusedEach("leaf", Bounds::ready, Bounds.outside(0, 11),
+                (x, leaf) -> reading.on(x, 7, leaf), Bounds.INDEX);
         Bounds.refused("both", Bounds::ready, x -> reading.on(x, 8, 12), Bounds.INDEX);
         Bounds.refused("a device's number for a leaf", Bounds::ready, x -> reading.on(x, 11, 7), Bounds.INDEX);
     }
@@ -268,7 +269,8 @@ public final class ReadingsBoundariesTest {
         });
         promise.test("Throws `IndexOutOfBoundsException` if there is no such group", () -> {
             Bounds.takenEach("group", Bounds::ready, 0, 3, (x, group) -> x.members(group));
-            Bounds.refusedEach("group", Bounds::ready, Bounds.outside(0, 3), (x, group) -> x.members(group), Bounds.INDEX);
+            Bounds.refusedEach("group", Bounds::ready, Bounds.outside(0, 3),
+                    (x, group) -> x.members(group), Bounds.INDEX);
         });
         promise.end();
     }
@@ -356,13 +358,16 @@ public final class ReadingsBoundariesTest {
                 int each = kind;
                 jobsOnly((x, job) -> x.devices(job, each));
             }
-            Bounds.refusedEach("a wrong kind, job", () -> withJobs(1), new int[] {-1, 1, 8}, (x, job) -> x.devices(job, 3),
+            Bounds.refusedEach("a wrong kind, job", () -> withJobs(1), new int[] {-1, 1, 8},
+                    (x, job) -> x.devices(job, 3),
                     Bounds.INDEX);
         });
         promise.test("Throws `IllegalArgumentException` if kind is out of range", () -> {
             Bounds.takenEach("kind", Bounds::ready, 0, 2, (x, kind) -> x.devices(0, kind));
-            Bounds.refusedEach("kind", Bounds::ready, Bounds.outside(0, 2), (x, kind) -> x.devices(0, kind), Bounds.ARGUMENT);
-            Bounds.refusedEach("of a cancelled one, kind", Kit::busy, new int[] {-1, 3}, (x, kind) -> x.devices(5, kind),
+            Bounds.refusedEach("kind", Bounds::ready, Bounds.outside(0, 2),
+                    (x, kind) -> x.devices(0, kind), Bounds.ARGUMENT);
+            Bounds.refusedEach("of a cancelled one, kind", Kit::busy, new int[] {-1, 3},
+                    (x, kind) -> x.devices(5, kind),
                     Bounds.ARGUMENT);
         });
         promise.end("Returns devices of a job, as bits.");
