@@ -2,7 +2,6 @@ import java.util.ArrayList;
 import java.util.LinkedHashSet;
 import java.util.List;
 import java.util.Set;
-import java.util.TreeSet;
 
 /**
  * What the boundary tests share: a test is filed under the sentence of the document that it is
@@ -54,13 +53,18 @@ final class Bounds {
 
     /** Every sentence of the section has a test, or is named here as one that tells no boundary. */
     void end(String... withoutBoundary) {
-        Set<String> due = new TreeSet<>(Document.sentences(section));
+        Set<String> due = new LinkedHashSet<>(Document.sentences(section));
         Kit.due(section + " has sentences", due.isEmpty(), false);
-        Set<String> had = new TreeSet<>(tested);
+        Set<String> had = new LinkedHashSet<>(tested);
         for (String sentence : withoutBoundary) {
-            Kit.due(section + ", once: " + sentence, had.add(sentence), true);
+            Kit.due(section + ", named once: " + sentence, had.add(sentence), true);
         }
-        Kit.due(section + ", its sentences", String.join("\n", had), String.join("\n", due));
+        for (String sentence : due) {
+            Kit.due(section + ", has a test or is named without one: " + sentence, had.contains(sentence), true);
+        }
+        for (String sentence : had) {
+            Kit.due(section + ", stands in the document: " + sentence, due.contains(sentence), true);
+        }
     }
 
     static void due(String what, int got, int want) {
