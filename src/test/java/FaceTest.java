@@ -6,36 +6,16 @@ import java.lang.reflect.Modifier;
 import java.nio.charset.StandardCharsets;
 import java.nio.file.Files;
 import java.nio.file.Path;
+import java.util.ArrayList;
+import java.util.HashMap;
+import java.util.List;
+import java.util.Map;
 import java.util.Set;
+import java.util.TreeMap;
 import java.util.TreeSet;
 
-/** The public face to the letter, and those rules of LANGUAGE.md that can be seen from outside. */
+/** The public face to the letter, as the document tells it, and those rules of LANGUAGE.md that can be seen from outside. */
 public final class FaceTest {
-    private static final String[] FACE = {
-        "boolean sleep(int) IndexOutOfBoundsException",
-        "int addJob(int,int,int,int,int) IndexOutOfBoundsException IllegalArgumentException IllegalStateException",
-        "int cancel(int) IndexOutOfBoundsException IllegalStateException",
-        "int devices(int,int) IndexOutOfBoundsException IllegalArgumentException",
-        "int differences(int) IndexOutOfBoundsException",
-        "int differencesAnew(int) IndexOutOfBoundsException",
-        "int drop(int) IndexOutOfBoundsException",
-        "int heard(int) IndexOutOfBoundsException",
-        "int jobs()",
-        "int members(int) IndexOutOfBoundsException",
-        "int obey(int) IndexOutOfBoundsException IllegalStateException",
-        "int put(int,int) IndexOutOfBoundsException IllegalArgumentException",
-        "int refuse(int,int,int) IndexOutOfBoundsException IllegalArgumentException IllegalStateException",
-        "int report(int,int) IndexOutOfBoundsException IllegalArgumentException IllegalStateException",
-        "int reported(int,int) IndexOutOfBoundsException",
-        "int setGroup(int,int,int,int) IndexOutOfBoundsException IllegalArgumentException",
-        "int state(int) IndexOutOfBoundsException",
-        "int version(int) IndexOutOfBoundsException",
-        "int wake(int) IndexOutOfBoundsException",
-        "int wave()",
-        "int why(int,int) IndexOutOfBoundsException",
-        "int wish(int,int) IndexOutOfBoundsException IllegalStateException",
-        "int wished(int,int) IndexOutOfBoundsException",
-    };
     private static final String[] RULED_OUT = {
         "import ", "->", "::", "finally", "synchronized", "assert", "static {", "catch", "System.", "hashCode",
         "toString", "package ",
@@ -64,31 +44,35 @@ public final class FaceTest {
                 Kit.due(method + " private", Modifier.isPrivate(method.getModifiers()), true);
             }
         }
-        Kit.due("the methods", String.join("\n", open), String.join("\n", new TreeSet<>(Set.of(FACE))));
-        for (String line : FACE) {
-            String name = line.substring(line.indexOf(' ') + 1, line.indexOf('('));
-            Kit.due(name + " is no private name", closed.contains(name), false);
+        Set<String> due = new TreeSet<>();
+        for (Document.Call call : Document.face()) {
+            due.add(told(call.answer(), call.name(), call.types(), call.exceptions()));
+            Kit.due(call.name() + " is no private name", closed.contains(call.name()), false);
         }
+        Kit.due("the methods", String.join("\n", open), String.join("\n", due));
+        Kit.due("calls in the document", due.size(), 23);
         Constructor<?>[] constructors = face.getDeclaredConstructors();
         Kit.due("constructors", constructors.length, 1);
-        Kit.due("the constructor is public", Modifier.isPublic(constructors[0].getModifiers()), true);
-        Kit.due("the constructor takes nothing", constructors[0].getParameterCount(), 0);
+        Kit.due("promise 1: the constructor is public", Modifier.isPublic(constructors[0].getModifiers()), true);
+        Kit.due("promise 1: the constructor takes nothing", constructors[0].getParameterCount(), 0);
         dueClosed(face);
     }
 
     private static String told(Method method) {
-        StringBuilder line = new StringBuilder();
-        line.append(method.getReturnType().getSimpleName()).append(' ').append(method.getName()).append('(');
-        String comma = "";
-        for (Class<?> type : method.getParameterTypes()) {
-            line.append(comma).append(type.getSimpleName());
-            comma = ",";
+        return told(method.getReturnType().getSimpleName(), method.getName(), names(method.getParameterTypes()),
+                names(method.getExceptionTypes()));
+    }
+
+    private static String told(String answer, String name, List<String> types, List<String> exceptions) {
+        return answer + " " + name + types + " throws " + exceptions;
+    }
+
+    private static List<String> names(Class<?>[] types) {
+        List<String> found = new ArrayList<>();
+        for (Class<?> type : types) {
+            found.add(type.getSimpleName());
         }
-        line.append(')');
-        for (Class<?> type : method.getExceptionTypes()) {
-            line.append(' ').append(type.getSimpleName());
-        }
-        return line.toString();
+        return found;
     }
 
     private static void dueClosed(Class<?> kind) {
@@ -126,5 +110,33 @@ public final class FaceTest {
             }
         }
         Kit.due("signs beyond 126", strange, 0);
+        declarations(text);
+        saidAhead(text);
+    }
+
+    /** Reflection does not tell the parameters' names. */
+    private static void declarations(String text) {
+        String oneLine = text.replaceAll("\\s+", " ");
+        for (Document.Call call : Document.face()) {
+            Kit.due("the source has " + call.declared(), oneLine.contains(" " + call.declared() + " {"), true);
+        }
+        Kit.due("the class, its constructor and its calls alone are public", text.split("\\bpublic ").length - 1,
+                2 + Document.face().size());
+    }
+
+    /** The interface's headings stand ahead of the same calls as in the document. */
+    private static void saidAhead(String text) {
+        Map<String, String> found = new HashMap<>();
+        String said = "";
+        for (String line : text.split("\n")) {
+            if (line.startsWith("    // ---- ")) {
+                said = line.substring(7);
+            } else if (line.startsWith("    public ") && !said.isEmpty()) {
+                found.put(line.substring(line.lastIndexOf(' ', line.indexOf('(')) + 1, line.indexOf('(')), said);
+            }
+        }
+        Kit.due("what is said ahead of the calls", new TreeMap<>(found).toString(),
+                new TreeMap<>(Document.saidAhead()).toString());
+        Kit.due("calls with something said ahead of them", found.size(), Document.face().size());
     }
 }
